@@ -1549,11 +1549,12 @@ public final class SpansAway {
         boolean tryOut(Memory from, int span) {
             trial.copyFrom(from);
             going.begin(span);
-            ticks = 0;
-            while (ticks < THOUGHT_TICKS && trial.spans.isGoing(span)) {
+            int gone = 0;
+            while (gone < THOUGHT_TICKS && trial.spans.isGoing(span)) {
                 going.oneTick();
-                ticks++;
+                gone++;
             }
+            ticks = gone;
             return trial.spans.state[span] == OFF;
         }
 

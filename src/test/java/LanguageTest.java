@@ -1,0 +1,125 @@
+import java.io.IOException;
+import java.lang.reflect.Field;
+import java.lang.reflect.Method;
+import java.lang.reflect.Modifier;
+import java.nio.file.Files;
+import java.nio.file.Path;
+import java.util.ArrayList;
+import java.util.List;
+import java.util.Set;
+import java.util.TreeSet;
+import java.util.regex.Matcher;
+import java.util.regex.Pattern;
+
+/** What can be seen of LANGUAGE.md in the source and in the compiled class; run from the project's directory. */
+public final class LanguageTest {
+    private static final String FACE = "set(int,int):boolean home(int,int):boolean take(int,int,int,int):int free(int):boolean "
+        + "read(int,int,int):int write(int,int,int,int):int pin(int,int):int unpin(int,int):boolean come(int,int):int "
+        + "byTurns(int):int press(int):int gather(int):int go(int):boolean giveUp(int):boolean tick(int):int "
+        + "frame(int,int):int block(int,int):int span(int,int):int task(int,int):int zone(int,int):int loose(int,int):int "
+        + "place(int,int,int):int hole(int):int keeps(int,int,int):int holders(int):int pressed(int):int at(int,int):int "
+        + "movable():int would(int,int):int easiest(int):int givenBack():int log(int,int):int count(int):int "
+        + "image(boolean):boolean look(int):int";
+    private static final String[] FORBIDDEN = {"throw", "throws", "try", "catch", "synchronized", "assert", "package",
+        "native", "volatile", "transient", "Object", "Thread", "Random", "protected"};
+    private static int wrong = 0;
+
+    private static void rule(int number, boolean kept, String what) {
+        if (!kept) {
+            wrong++;
+            System.out.println("rule " + number + ": " + what);
+        }
+    }
+
+    private static String signature(Method m) {
+        List<String> types = new ArrayList<>();
+        for (Class<?> p : m.getParameterTypes()) types.add(p.getSimpleName());
+        return m.getName() + "(" + String.join(",", types) + "):" + m.getReturnType().getSimpleName();
+    }
+
+    private static void face() {
+        Set<String> due = new TreeSet<>(List.of(FACE.split(" ")));
+        Set<String> there = new TreeSet<>();
+        Set<String> names = new TreeSet<>();
+        for (Method m : SpansAway.class.getDeclaredMethods()) {
+            if (Modifier.isPublic(m.getModifiers())) {
+                there.add(signature(m));
+                names.add(m.getName());
+            } else {
+                rule(1, Modifier.isPrivate(m.getModifiers()), m + " is neither public nor private");
+            }
+        }
+        rule(1, due.equals(there), "the face is " + there);
+        rule(1, Modifier.isFinal(SpansAway.class.getModifiers()), "the class is not final");
+        rule(1, SpansAway.class.getDeclaredConstructors().length == 1, "more than one constructor");
+        for (Field f : SpansAway.class.getDeclaredFields()) {
+            rule(1, Modifier.isPrivate(f.getModifiers()) || f.getName().equals("NONE"), f + " is not private");
+        }
+        int classes = 1;
+        for (Class<?> inside : SpansAway.class.getDeclaredClasses()) {
+            classes++;
+            rule(1, Modifier.isStatic(inside.getModifiers()), inside + " is not static");
+            inside(inside, names);
+        }
+        rule(11, classes <= 12, classes + " classes");
+    }
+
+    private static void inside(Class<?> inside, Set<String> names) {
+        int fields = 0;
+        for (Field f : inside.getDeclaredFields()) {
+            if (Modifier.isStatic(f.getModifiers())) {
+                rule(5, Modifier.isFinal(f.getModifiers()), f + " is not final");
+            } else {
+                fields++;
+            }
+        }
+        rule(11, fields <= 20, inside + " has " + fields + " fields");
+        for (Method m : inside.getDeclaredMethods()) {
+            rule(1, !names.contains(m.getName()), m + " bears a public name");
+            rule(11, m.getParameterCount() <= 7, m + " takes too many");
+        }
+    }
+
+    private static void source() throws IOException {
+        String all = Files.readString(Path.of("src/main/java/SpansAway.java"));
+        String code = all.replaceAll("(?s)/\\*.*?\\*/", "").replaceAll("//[^\n]*", "");
+        for (String word : FORBIDDEN) {
+            rule(6, !Pattern.compile("\\b" + word + "\\b").matcher(code).find(), word + " stands in the code");
+        }
+        rule(2, !code.contains("->") && !code.contains("::"), "a lambda or a method reference");
+        rule(5, !Pattern.compile("static\\s*\\{").matcher(code).find(), "a static block");
+        Matcher imports = Pattern.compile("import ([^;]+);").matcher(code);
+        while (imports.find()) rule(4, imports.group(1).equals("java.util.Arrays"), "import " + imports.group(1));
+        Matcher library = Pattern.compile("\\b(Integer|Math|Arrays|System)\\.(\\w+)").matcher(code);
+        Set<String> known = Set.of("bitCount", "numberOfTrailingZeros", "min", "max", "fill", "arraycopy");
+        while (library.find()) rule(4, known.contains(library.group(2)), library.group());
+        for (String line : code.split("\n")) {
+            boolean row = line.matches("\\s+(private )?final [\\w\\[\\]]+ \\w+ = new [^;]+;");
+            rule(12, !line.matches(".*\\bnew\\b.*") || row, "made outside of a constructor: " + line.trim());
+        }
+        lengths(all);
+    }
+
+    private static void lengths(String all) {
+        String[] lines = all.split("\n");
+        int begin = -1;
+        String end = "";
+        for (int i = 0; i < lines.length; i++) {
+            Matcher head = Pattern.compile("^( {4}| {8})[\\w\\[\\] ]+\\([^;]*\\) \\{$").matcher(lines[i]);
+            if (head.matches()) {
+                begin = i;
+                end = head.group(1) + "}";
+            } else if (begin >= 0 && lines[i].equals(end)) {
+                rule(11, i - begin <= 60, "a method of " + (i - begin) + " lines: " + lines[begin].trim());
+                begin = -1;
+            }
+        }
+    }
+
+    public static void main(String[] args) throws IOException {
+        face();
+        source();
+        System.out.println("LanguageTest: " + wrong + " breaches");
+        if (wrong != 0) System.exit(1);
+    }
+}
