@@ -1131,7 +1131,6 @@ public final class SpansAway {
             int first = blocks.first[block];
             frames.letGo(first, 1 << blocks.order[block], spans.shutBits(first / SPAN_FRAMES));
             blocks.first[block] = NONE;
-            blocks.pins[block] = 0;
         }
 
         /** 0 if it is done, 1 if the task waits. */
