@@ -3,21 +3,25 @@ final class Check {
     private final String test;
     private int answers = 0;
     private int wrong = 0;
-    private int promise = 0;
+    private String about = "";
 
     Check(String test) {
         this.test = test;
     }
 
     void promise(int number) {
-        promise = number;
+        about = "promise " + number;
+    }
+
+    /** What the next answers are about, in the document's own words. */
+    void about(String words) {
+        about = words;
     }
 
     void is(String call, int got, int want) {
         answers++;
         if (got != want) {
-            wrong++;
-            System.out.println("promise " + promise + ": " + call + " answered " + got + ", due is " + want);
+            fault(call + " answered " + got + ", due is " + want);
         }
     }
 
@@ -34,6 +38,11 @@ final class Check {
         is("log(" + i + ", 1)", x.log(i, 1), what);
         is("log(" + i + ", 2)", x.log(i, 2), one);
         is("log(" + i + ", 3)", x.log(i, 3), other);
+    }
+
+    void fault(String what) {
+        wrong++;
+        System.out.println(about + ": " + what);
     }
 
     void end() {

@@ -57,9 +57,10 @@ public final class DoPromisesTest {
             }
         }
         for (int f = 0; f < 256; f++) {
-            c.is("frame(" + f + ", 0)", x.frame(f, 0), f < 64 ? 1 : 0);
-            c.is("frame(" + f + ", 1)", x.frame(f, 1), NONE);
-            c.is("frame(" + f + ", 2)", x.frame(f, 2), 0);
+            SpansAway y = new SpansAway();
+            c.is("frame(" + f + ", 0)", y.frame(f, 0), f < 64 ? 1 : 0);
+            c.is("frame(" + f + ", 1)", y.frame(f, 1), NONE);
+            c.is("frame(" + f + ", 2)", y.frame(f, 2), 0);
         }
         for (int b = 0; b < 96; b++) {
             c.is("block(" + b + ", 0)", x.block(b, 0), NONE);
