@@ -5,8 +5,11 @@ import java.lang.reflect.Modifier;
 import java.nio.file.Files;
 import java.nio.file.Path;
 import java.util.ArrayList;
+import java.util.HashMap;
 import java.util.List;
+import java.util.Map;
 import java.util.Set;
+import java.util.TreeMap;
 import java.util.TreeSet;
 import java.util.regex.Matcher;
 import java.util.regex.Pattern;
@@ -47,6 +50,7 @@ public final class LanguageTest {
                 names.add(m.getName());
             } else {
                 rule(1, Modifier.isPrivate(m.getModifiers()), m + " is neither public nor private");
+                rule(1, !(" " + FACE).contains(" " + m.getName() + "("), m + " bears a public name");
             }
         }
         rule(1, due.equals(there), "the face is " + there);
@@ -97,23 +101,72 @@ public final class LanguageTest {
             boolean row = line.matches("\\s+(private )?final [\\w\\[\\]]+ \\w+ = new [^;]+;");
             rule(12, !line.matches(".*\\bnew\\b.*") || row, "made outside of a constructor: " + line.trim());
         }
-        lengths(all);
+        methods(bodies(code));
     }
 
-    private static void lengths(String all) {
-        String[] lines = all.split("\n");
-        int begin = -1;
+    /** The class of what stands before a dot: fields bear the names of their classes, but for those of Memory. */
+    private static String receiver(String name) {
+        if (Set.of("now", "kept", "memory", "trial", "then", "from").contains(name)) return "Memory";
+        return Character.toUpperCase(name.charAt(0)) + name.substring(1);
+    }
+
+    /** Methods as "Class.name", each with its body, told apart by the indentation. */
+    private static Map<String, String> bodies(String code) {
+        Map<String, String> bodies = new TreeMap<>();
+        String inClass = "SpansAway";
+        String method = null;
         String end = "";
-        for (int i = 0; i < lines.length; i++) {
-            Matcher head = Pattern.compile("^( {4}| {8})[\\w\\[\\] ]+\\([^;]*\\) \\{$").matcher(lines[i]);
-            if (head.matches()) {
-                begin = i;
+        for (String line : code.split("\n")) {
+            Matcher inside = Pattern.compile("^    private static final class (\\w+) \\{$").matcher(line);
+            Matcher head = Pattern.compile("^( {4}| {8})(?=\\S)[\\w\\[\\] ]*?(\\w+)\\([^;]*\\) \\{$").matcher(line);
+            if (inside.matches()) {
+                inClass = inside.group(1);
+            } else if (method == null && head.matches()) {
+                method = (head.group(1).length() == 4 ? "SpansAway" : inClass) + "." + head.group(2);
                 end = head.group(1) + "}";
-            } else if (begin >= 0 && lines[i].equals(end)) {
-                rule(11, i - begin <= 60, "a method of " + (i - begin) + " lines: " + lines[begin].trim());
-                begin = -1;
+                bodies.put(method, "");
+            } else if (method != null && line.equals(end)) {
+                method = null;
+            } else if (method != null) {
+                bodies.put(method, bodies.get(method) + line + "\n");
             }
         }
+        return bodies;
+    }
+
+    private static void methods(Map<String, String> bodies) {
+        Map<String, Integer> known = new HashMap<>();
+        int most = 0;
+        for (String method : bodies.keySet()) {
+            int lines = bodies.get(method).split("\n").length;
+            rule(11, lines <= 60, method + " has " + lines + " lines");
+            most = Math.max(most, depthOf(method, bodies, known));
+        }
+        rule(11, bodies.size() > 100, "only " + bodies.size() + " methods were found");
+        rule(11, most <= 8, "calls go " + most + " deep");
+        System.out.println(bodies.size() + " methods, calls go " + most + " deep");
+    }
+
+    private static int depthOf(String method, Map<String, String> bodies, Map<String, Integer> known) {
+        if (known.containsKey(method)) {
+            rule(8, known.get(method) > 0, method + " calls itself");
+            return known.get(method);
+        }
+        known.put(method, 0);
+        String own = method.substring(0, method.indexOf('.'));
+        int deepest = 0;
+        Matcher call = Pattern.compile("(?:(\\w+)\\.)?(\\w+)\\(").matcher(bodies.get(method));
+        while (call.find()) {
+            String in = call.group(1) == null ? own : receiver(call.group(1));
+            for (String callee : new String[] {in + "." + call.group(2), "SpansAway." + call.group(2)}) {
+                if (bodies.containsKey(callee)) {
+                    deepest = Math.max(deepest, depthOf(callee, bodies, known));
+                    break;
+                }
+            }
+        }
+        known.put(method, deepest + 1);
+        return deepest + 1;
     }
 
     public static void main(String[] args) throws IOException {
