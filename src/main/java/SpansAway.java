@@ -81,8 +81,8 @@ public final class SpansAway {
     private static final int COUNT_PASSES = 9;
     private static final int COUNT_AT_ONCE = 10;
 
-    private final Memory now = new Memory();
-    private final Going going = new Going(now);
+    private final Going going = new Going();
+    private final Memory now = going.memory;
     private final Memory kept = new Memory();
     private final Thought thought = new Thought();
     private boolean isKept = false;
@@ -1321,17 +1321,10 @@ public final class SpansAway {
         /** Far above what a span of 32 frames can need in one tick. */
         private static final int MOST_STEPS = 1000;
 
-        private final Memory memory;
-        private final Frames frames;
-        private final Blocks blocks;
-        private final Spans spans;
-
-        Going(Memory memory) {
-            this.memory = memory;
-            this.frames = memory.frames;
-            this.blocks = memory.blocks;
-            this.spans = memory.spans;
-        }
+        final Memory memory = new Memory();
+        private final Frames frames = memory.frames;
+        private final Blocks blocks = memory.blocks;
+        private final Spans spans = memory.spans;
 
         void begin(int span) {
             spans.state[span] = SHUTTING;
@@ -1538,9 +1531,9 @@ public final class SpansAway {
 
     /** What would be: runs on copies, so that nothing of it stays. */
     private static final class Thought {
-        final Memory trial = new Memory();
+        private final Going going = new Going();
+        final Memory trial = going.memory;
         final Memory then = new Memory();
-        private final Going going = new Going(trial);
         int ticks = 0;
         int fewest = 0;
 

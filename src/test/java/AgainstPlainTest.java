@@ -118,7 +118,8 @@ public final class AgainstPlainTest {
 
     public static void main(String[] args) {
         int[] seen = new int[11];
-        for (int run = 0; run < RUNS && wrong < 20; run++) {
+        int runs = args.length > 0 ? Integer.parseInt(args[0]) : RUNS;
+        for (int run = 0; run < runs && wrong < 20; run++) {
             AgainstPlainTest t = new AgainstPlainTest(run);
             boolean same = true;
             int calls = run / 4 % 2 == 0 ? CALLS : CALLS - SHARE_CALLS;

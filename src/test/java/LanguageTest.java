@@ -1,4 +1,5 @@
 import java.io.IOException;
+import java.lang.reflect.Array;
 import java.lang.reflect.Field;
 import java.lang.reflect.Method;
 import java.lang.reflect.Modifier;
@@ -6,6 +7,7 @@ import java.nio.file.Files;
 import java.nio.file.Path;
 import java.util.ArrayList;
 import java.util.HashMap;
+import java.util.IdentityHashMap;
 import java.util.List;
 import java.util.Map;
 import java.util.Set;
@@ -25,6 +27,9 @@ public final class LanguageTest {
         + "image(boolean):boolean look(int):int";
     private static final String[] FORBIDDEN = {"throw", "throws", "try", "catch", "synchronized", "assert", "package",
         "native", "volatile", "transient", "Object", "Thread", "Random", "protected"};
+    /** The room has 600,000 objects and 7.3 million cells: a thousand objects of the class must fit into it. */
+    private static final int MOST_OBJECTS = 600;
+    private static final int MOST_CELLS = 7300;
     private static int wrong = 0;
 
     private static void rule(int number, boolean kept, String what) {
@@ -98,8 +103,8 @@ public final class LanguageTest {
         Set<String> known = Set.of("bitCount", "numberOfTrailingZeros", "min", "max", "fill", "arraycopy");
         while (library.find()) rule(4, known.contains(library.group(2)), library.group());
         for (String line : code.split("\n")) {
-            boolean row = line.matches("\\s+(private )?final [\\w\\[\\]]+ \\w+ = new [^;]+;");
-            rule(12, !line.matches(".*\\bnew\\b.*") || row, "made outside of a constructor: " + line.trim());
+            boolean row = line.matches("\\s+(private )?final [\\w\\[\\]]+ \\w+ = new (\\w+\\(\\)|int\\[\\w+\\]);");
+            rule(12, !line.matches(".*\\bnew\\b.*") || row, "made by a call, or handed something: " + line.trim());
         }
         methods(bodies(code));
     }
@@ -169,9 +174,32 @@ public final class LanguageTest {
         return deepest + 1;
     }
 
-    public static void main(String[] args) throws IOException {
+    /** No call makes an object, so that what a new one holds is all that a run makes. */
+    private static void room() throws IllegalAccessException {
+        Map<Object, Boolean> met = new IdentityHashMap<>();
+        int cells = cells(new SpansAway(), met);
+        rule(12, met.size() > 10 && met.size() <= MOST_OBJECTS, met.size() + " objects and arrays");
+        rule(12, cells > 1000 && cells <= MOST_CELLS, cells + " fields and elements");
+        System.out.println("an object is " + met.size() + " objects and arrays, " + cells + " fields and elements");
+    }
+
+    private static int cells(Object one, Map<Object, Boolean> met) throws IllegalAccessException {
+        if (one == null || met.put(one, true) != null) return 0;
+        if (one.getClass().isArray()) return Array.getLength(one);
+        int cells = 0;
+        for (Field f : one.getClass().getDeclaredFields()) {
+            if (Modifier.isStatic(f.getModifiers())) continue;
+            cells++;
+            f.setAccessible(true);
+            if (!f.getType().isPrimitive()) cells += cells(f.get(one), met);
+        }
+        return cells;
+    }
+
+    public static void main(String[] args) throws IOException, IllegalAccessException {
         face();
         source();
+        room();
         System.out.println("LanguageTest: " + wrong + " breaches");
         if (wrong != 0) System.exit(1);
     }
